@@ -14,6 +14,8 @@ public final class LoadTest {
         promise10PressureBeyondTheTrap();
         promise10PressureHasAMost();
         promise10PressureAtTheTrap();
+        promise10ShelvesThatAreAllRim();
+        promise10TheLastUnitOfIce();
         promise11Unload();
         promise12Vial();
         promise12FallsInWhileItDries();
@@ -79,7 +81,9 @@ public final class LoadTest {
         }
         check.due("minute", x.about(0), 0);
         check.due("pressure as set", x.about(1), 77);
+        x.warm(0);
         x.run(3);
+        check.holds("there is steam", x.vial(0, 2) > 0);
         String before = Check.stateOf(x);
         check.due("load() under a load", x.load(), -3);
         unchanged("a refused load", x, before);
@@ -93,6 +97,7 @@ public final class LoadTest {
         check.due("latest steam of the new one", x.about(4), 0);
         check.due("ice of the new one", x.about(2), 6 * 321);
         check.due("warmth in the new one", x.vial(0, 1), -6);
+        check.due("steam of a vial of the new one", x.vial(0, 2), 0);
         check.due("a minute of the load before", x.gauge(1, 0), -1);
     }
 
@@ -271,6 +276,56 @@ public final class LoadTest {
             x.run(1);
             check.due("pressure with trap " + d[0] + " and gas " + d[1], x.about(1), d[2]);
         }
+        check.due("what the trap can just take lets it fall", pressureAboveSet(237), 80);
+        check.due("what it can't holds it, even if it is no whole one more", pressureAboveSet(236), 100);
+    }
+
+    private static int pressureAboveSet(int trap) {
+        ColdDryer x = new ColdDryer();
+        x.shelf(3, 3);
+        x.rule(0, 200);
+        x.rule(7, trap);
+        x.warm(0);
+        x.load();
+        x.set(50);
+        x.run(1);
+        return x.about(1);
+    }
+
+    private static void promise10ShelvesThatAreAllRim() {
+        int[][] shelves = {{1, 1}, {1, 6}, {4, 1}, {2, 6}, {4, 2}};
+        for (int[] s : shelves) {
+            int vials = s[0] * s[1];
+            ColdDryer x = new ColdDryer();
+            x.shelf(s[0], s[1]);
+            x.warm(0);
+            x.load();
+            x.run(1);
+            check.due("steam of all of " + s[0] + " by " + s[1], x.about(4), vials * 27);
+            check.due("ice of all of them", x.about(2), vials * 973);
+            check.due("vials with ice", x.wet(1), vials);
+        }
+    }
+
+    /** At 0 with pressure 100 and 1000 to bar it, each gives 118 in the first minute. */
+    private static void promise10TheLastUnitOfIce() {
+        ColdDryer x = new ColdDryer();
+        x.shelf(3, 3);
+        int[] rules = {119, 50, 0, 1, 1000};
+        for (int i = 0; i < rules.length; i++) {
+            x.rule(i, rules[i]);
+        }
+        x.warm(400);
+        x.load();
+        x.run(1);
+        check.due("ice", x.vial(0, 0), 1);
+        check.due("all have ice", x.wet(1), 9);
+        check.due("none is without", x.about(7), 0);
+        check.due("none has seen its last", x.vial(0, 4), -6);
+        x.run(1);
+        check.due("steam", x.vial(0, 2), 1);
+        check.due("its last went", x.vial(0, 4), 1);
+        check.due("all are without", x.about(7), 9);
     }
 
     private static void promise11Unload() {
@@ -485,6 +540,18 @@ public final class LoadTest {
         x.load();
         x.run(1);
         check.due("by numbers in one minute", x.firstFallen(), 0);
+        check.due("where none is inside, none falls in there", firstOfARimThatHolds(), -6);
         check.due("all in one minute", x.about(6), 9);
+    }
+
+    private static int firstOfARimThatHolds() {
+        ColdDryer x = new ColdDryer();
+        x.rule(1, 1);
+        x.rule(2, 4);
+        x.rule(6, -395);
+        x.set(5000);
+        x.load();
+        x.run(1);
+        return x.firstFallen();
     }
 }

@@ -35,6 +35,7 @@ public final class MapTest {
         check.due("inside alone", x.trial(-400, 5000, 5), 0);
         x.shelf(2, 3);
         check.due("by the shelf as it is", x.trial(-400, 5000, 5), 1);
+        triedIs("of a shelf that is all rim", x, 5, -6, -6, 5000, 6);
     }
 
     private static void promise18TrialRefused() {
