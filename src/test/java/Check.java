@@ -1,5 +1,8 @@
 /** Counts the answers that are not the ones due, and ends a test by them. */
 final class Check {
+    /** Of a long load only the first minutes and the latest are shown: an object is good for 512 calls. */
+    private static final int MINUTES_SHOWN = 12;
+
     private final String test;
     private int wrong = 0;
     private int looked = 0;
@@ -49,9 +52,12 @@ final class Check {
                 all.append(x.vial(i, what)).append(' ');
             }
         }
-        for (int minute = 0; minute <= x.about(0); minute++) {
-            all.append(x.gauge(minute, 0)).append(' ').append(x.gauge(minute, 1)).append(' ');
-            all.append(x.wet(minute)).append(' ');
+        int over = x.about(0);
+        for (int minute = 0; minute <= over; minute++) {
+            if (minute <= MINUTES_SHOWN || minute > over - MINUTES_SHOWN) {
+                all.append(x.gauge(minute, 0)).append(' ').append(x.gauge(minute, 1)).append(' ');
+                all.append(x.wet(minute)).append(' ');
+            }
         }
         for (int what = 0; what <= 4; what++) {
             all.append(x.tried(what)).append(' ');
