@@ -32,7 +32,7 @@ final class Script {
         check = new Check(test);
     }
 
-    private record Call(String name, int[] args, Integer due, String text) {
+    record Call(String name, int[] args, Integer due, String text) {
         int on(Object dryer) {
             Class<?>[] types = new Class<?>[args.length];
             Arrays.fill(types, int.class);
@@ -62,7 +62,7 @@ final class Script {
         return sum;
     }
 
-    private static List<Call> parse(String text) {
+    static List<Call> parse(String text) {
         List<Call> calls = new ArrayList<>();
         for (String line : text.split("[;\n]")) {
             String one = line.trim();
